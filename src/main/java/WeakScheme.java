@@ -286,8 +286,8 @@ public final class WeakScheme {
         static final int MOST_NAMES = 444;
         static final int MOST_DATA = 20000;
 
-        private final byte[] letters = new byte[MOST_NAMES * MOST_LETTERS];
-        private final int[] lengths = new int[MOST_NAMES];
+        final byte[] letters = new byte[MOST_NAMES * MOST_LETTERS];
+        final int[] lengths = new int[MOST_NAMES];
         int names;
         /** What an atom is as a value, a name as a symbol; LIST for a list. */
         final long[] value = new long[MOST_DATA];
@@ -348,17 +348,12 @@ public final class WeakScheme {
             return names - 1;
         }
 
-        int spell(int name, byte[] into) {
-            System.arraycopy(letters, name * MOST_LETTERS, into, 0, lengths[name]);
-            return lengths[name];
-        }
-
         boolean isName(int datum) {
             return value[datum] >> HALF == SYMBOL;
         }
 
         boolean isSpecial(int datum) {
-            return isName(datum) && (int) value[datum] < SPECIALS;
+            return value[datum] >> HALF == SYMBOL && (int) value[datum] < SPECIALS;
         }
 
         /** What a list that is not empty is as an expression: the number of its special name, or CALL. */
@@ -1411,12 +1406,10 @@ public final class WeakScheme {
             int next = first;
             boolean queueIsDue = false;
             for (int step = 0; step < MOST_STEPS && fault == NO_FAULT; step++) {
-                if (held.top > 0) {
-                    if (held.form[held.top] == APPLY) {
-                        apply(held.top);
-                    } else {
-                        resume(held.top);
-                    }
+                if (held.top > 0 && isPrimitiveDue(held.top)) {
+                    operate(held.top);
+                } else if (held.top > 0) {
+                    resume(held.top);
                 } else if (queueIsDue) {
                     begin(QUEUE, next, next, NONE);
                     queueIsDue = false;
@@ -1481,7 +1474,11 @@ public final class WeakScheme {
                 int form = source.form(datum);
                 begin(form, datum, aheadOfFirst(form, datum), frame);
             } else if (source.isName(datum)) {
-                lookUp(datum, frame);
+                int found = find(datum, frame);
+                value = found >= 0
+                        ? heap.get(found / MOST_BOUND, SLOTS + found % MOST_BOUND)
+                        : globals[(int) source.value[datum]];
+                fault = value == NO_VALUE ? UNBOUND : NO_FAULT;
             } else {
                 value = source.value[datum];
             }
@@ -1497,16 +1494,6 @@ public final class WeakScheme {
                     return source.end[list];
                 default:
                     return list + 1;
-            }
-        }
-
-        private void lookUp(int datum, int frame) {
-            int found = find(datum, frame);
-            value = found >= 0
-                    ? heap.get(found / MOST_BOUND, SLOTS + found % MOST_BOUND)
-                    : globals[(int) source.value[datum]];
-            if (value == NO_VALUE) {
-                fault = UNBOUND;
             }
         }
 
@@ -1552,6 +1539,9 @@ public final class WeakScheme {
                     break;
                 case CALL:
                     gather(record, list, 0, APPLY);
+                    break;
+                case APPLY:
+                    call(record);
                     break;
                 case QUEUE:
                     callFromQueue(record);
@@ -1734,27 +1724,18 @@ public final class WeakScheme {
             return made;
         }
 
-        private void apply(int record) {
-            long called = held.value(record, 0);
-            int operands = held.filled[record] - 1;
-            if (called >> HALF == PRIMITIVE) {
-                Primitive primitive = PRIMITIVES[(int) called];
-                if (primitive.sorts.length() == operands) {
-                    operate(record, primitive);
-                } else {
-                    fault = OPERANDS;
-                }
-            } else if (!heap.is(called, PROCEDURE)) {
-                fault = NO_PROCEDURE;
-            } else if (operations.namesOf((int) called) != operands) {
-                fault = OPERANDS;
-            } else {
-                enter(record);
-            }
+        private boolean isPrimitiveDue(int record) {
+            return held.form[record] == APPLY && held.value(record, 0) >> HALF == PRIMITIVE;
         }
 
-        private void operate(int record, Primitive primitive) {
-            for (int i = 0; i < primitive.sorts.length(); i++) {
+        private void operate(int record) {
+            Primitive primitive = PRIMITIVES[(int) held.value(record, 0)];
+            int operands = held.filled[record] - 1;
+            if (primitive.sorts.length() != operands) {
+                fault = OPERANDS;
+                return;
+            }
+            for (int i = 0; i < operands; i++) {
                 if (!operations.isOfSort(held.value(record, i + 1), primitive.sorts.charAt(i))) {
                     fault = TYPE;
                     return;
@@ -1768,6 +1749,17 @@ public final class WeakScheme {
                 held.form[record] = QUEUE;
             } else if (fault == NO_FAULT && !heap.lacking) {
                 endWith(result);
+            }
+        }
+
+        private void call(int record) {
+            long called = held.value(record, 0);
+            if (!heap.is(called, PROCEDURE)) {
+                fault = NO_PROCEDURE;
+            } else if (operations.namesOf((int) called) != held.filled[record] - 1) {
+                fault = OPERANDS;
+            } else {
+                enter(record);
             }
         }
 
@@ -1811,6 +1803,7 @@ public final class WeakScheme {
         private static final int MOST_PARTS = 40;
         private static final int MOST_BRACKETS = 10;
         private static final int MOST_FETCHED = 7;
+        private static final int MOST_DIGITS = 10;
 
         private final Source source;
         private final Heap heap;
@@ -1820,7 +1813,7 @@ public final class WeakScheme {
         /** How many parts of the value have been written, and whether one more would have stood there. */
         private int parts;
         private boolean isCut;
-        private final byte[] part = new byte[Source.MOST_LETTERS];
+        private final byte[] digits = new byte[MOST_DIGITS];
 
         Output(Source source, Heap heap) {
             this.source = source;
@@ -1856,65 +1849,65 @@ public final class WeakScheme {
         }
 
         private void write(long value, int brackets) {
-            if (brackets >= MOST_BRACKETS || !heap.is(value, PAIR)) {
-                writePart(value);
+            boolean isPair = heap.is(value, PAIR);
+            if (isPair && brackets < MOST_BRACKETS) {
+                add('(');
+                write(heap.get((int) value, CAR), brackets + 1);
+                long rest = heap.get((int) value, CDR);
+                // Each turn writes a part at least, so that a list which is a ring has an end, too.
+                for (int turn = 0; turn <= MOST_PARTS && !isCut && heap.is(rest, PAIR); turn++) {
+                    add(' ');
+                    write(heap.get((int) rest, CAR), brackets + 1);
+                    rest = heap.get((int) rest, CDR);
+                }
+                if (!isCut && rest != NIL) {
+                    writeWord(" . ");
+                    write(rest, brackets + 1);
+                }
+                add(')');
                 return;
             }
-            add('(');
-            write(heap.get((int) value, CAR), brackets + 1);
-            long rest = heap.get((int) value, CDR);
-            // Each turn writes a part at least, so that a list which is a ring has an end, too.
-            for (int turn = 0; turn <= MOST_PARTS && !isCut && heap.is(rest, PAIR); turn++) {
-                add(' ');
-                write(heap.get((int) rest, CAR), brackets + 1);
-                rest = heap.get((int) rest, CDR);
-            }
-            if (!isCut && rest != NIL) {
-                add(' ');
-                add('.');
-                add(' ');
-                writePart(rest);
-            }
-            add(')');
-        }
-
-        private void writePart(long value) {
             isCut = parts == MOST_PARTS;
-            int length;
-            if (isCut || heap.is(value, PAIR)) {
-                length = spell("...");
-            } else if (value >> HALF == NUMBER) {
-                length = spellNumber((int) value);
-            } else if (value >> HALF == SYMBOL) {
-                length = source.spell((int) value, part);
-            } else {
-                length = spell(wordFor(value));
-            }
             parts++;
-            for (int i = 0; i < length; i++) {
-                add(part[i]);
+            if (isCut || isPair) {
+                writeWord("...");
+            } else if (value >> HALF == NUMBER) {
+                writeNumber((int) value);
+            } else if (value >> HALF == SYMBOL) {
+                writeName((int) value);
+            } else {
+                writeWord(wordFor(value));
             }
         }
 
-        private int spell(String word) {
+        private void writeWord(String word) {
             for (int i = 0; i < word.length(); i++) {
-                part[i] = (byte) word.charAt(i);
+                add(word.charAt(i));
             }
-            return word.length();
         }
 
-        private int spellNumber(int n) {
-            long magnitude = Math.abs((long) n);
-            int length = n < 0 ? 2 : 1;
-            for (long rest = magnitude / 10; rest > 0; rest /= 10) {
-                length++;
+        private void writeName(int name) {
+            for (int i = 0; i < source.lengths[name]; i++) {
+                add(source.letters[name * Source.MOST_LETTERS + i]);
             }
-            part[0] = '-';
-            for (int i = length - 1; i >= (n < 0 ? 1 : 0); i--) {
-                part[i] = (byte) ('0' + magnitude % 10);
-                magnitude /= 10;
+        }
+
+        private void writeNumber(int n) {
+            if (n < 0) {
+                add('-');
             }
-            return length;
+            // Of numbers below 0 the remainders are so, too; the least one has no opposite.
+            int first = MOST_DIGITS;
+            int rest = n;
+            do {
+                first--;
+                int digit = rest % 10;
+                digits[first] = (byte) ('0' + (digit < 0 ? -digit : digit));
+                rest /= 10;
+            } while (rest != 0 && first > 0);
+            for (int i = first; i < MOST_DIGITS; i++) {
+                add(digits[i]);
+            }
         }
 
         private String wordFor(long value) {

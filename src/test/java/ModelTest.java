@@ -1,0 +1,325 @@
+import java.util.Random;
+
+/**
+ * Holds the program against Model: the same calls on both, every answer compared. The programs are drawn at
+ * random from fixed seeds, so that each run of this test makes the same calls.
+ */
+public final class ModelTest {
+    private static final String SPLICES =
+            "((((()))))''''##tf;\n\n    aabcxyz0123456789!?*+-/<=>.,AZ@[`{|}~\"$%&:_\\^\t\u007f\u0000\u00ff";
+    private static final String[] HEADS = {
+        "quote", "if", "set!", "define", "lambda", "let", "begin", "while", "and", "or", "f", "car", "(lambda (x) x)"
+    };
+
+    private final Random random;
+    private final WeakScheme scheme;
+    private final Model model;
+    private final StringBuilder story = new StringBuilder();
+    private boolean alike = true;
+
+    private ModelTest(long seed) {
+        random = new Random(seed);
+        int cells = oneOf(100, 130, 200, 300, 500, 1000);
+        scheme = new WeakScheme(cells);
+        model = new Model(cells);
+        story.append("seed ").append(seed).append(", new WeakScheme(").append(cells).append(")\n");
+    }
+
+    public static void main(String[] args) {
+        int seeds = args.length > 0 ? Integer.parseInt(args[0]) : 1500;
+        int wrong = 0;
+        for (int seed = 0; seed < seeds && wrong < 3; seed++) {
+            ModelTest test = new ModelTest(seed);
+            switch (seed % 3) {
+                case 0:
+                    test.runCollections();
+                    break;
+                case 1:
+                    test.runShapes();
+                    break;
+                default:
+                    test.runSplices();
+                    break;
+            }
+            Check.due("seed " + seed + " is alike", test.alike, true);
+            if (!test.alike) {
+                wrong++;
+                System.out.println(test.story);
+            }
+        }
+        Check.end();
+    }
+
+    private int oneOf(int... choices) {
+        return choices[random.nextInt(choices.length)];
+    }
+
+    private String oneOf(String... choices) {
+        return choices[random.nextInt(choices.length)];
+    }
+
+    private void compare(String what, long got, long want) {
+        if (got != want && alike) {
+            alike = false;
+            story.append(what).append(" answered ").append(got).append(", the model ").append(want).append('\n');
+        }
+    }
+
+    private void run(String text, int fuel) {
+        byte[] bytes = Check.bytes(text);
+        story.append("run ").append(fuel).append(": ").append(text).append('\n');
+        for (int at = 0; at < bytes.length; at += 20) {
+            boolean fed = Check.feedTwenty(scheme, bytes, at);
+            compare("feed", fed ? 1 : 0, model.feed(Check.four(bytes, at), Check.four(bytes, at + 4),
+                    Check.four(bytes, at + 8), Check.four(bytes, at + 12), Check.four(bytes, at + 16)) ? 1 : 0);
+        }
+        int n = random.nextInt(20) == 0 ? random.nextInt(bytes.length + 40) - 10 : bytes.length;
+        compare("count(5)", scheme.count(5), model.count(5));
+        compare("run " + n, scheme.run(n, fuel), model.run(n, fuel));
+        compare("place", scheme.place(), model.place());
+        for (int what = -1; what <= 9; what++) {
+            compare("count " + what, scheme.count(what), model.count(what));
+        }
+        for (int i = random.nextInt(4) == 0 ? 600 : random.nextInt(30); i > 0 && alike; i--) {
+            compare("fetch", scheme.fetch(), model.fetch());
+        }
+    }
+
+    private void runCollections() {
+        run("(define p0 (cons 0 0)) (define p1 (cons 1 '(1))) (define p2 '((2) . 2)) ", 1000);
+        run("(define p2 '((2) 2)) (define v0 (vector 2 0)) (define x0 0) (define x1 1) (define x2 2)", 1000);
+        run("(define w0 (weak p0)) (define w1 (weak (cons 1 1))) (define e0 (ephemeron p0 p1))", 1000);
+        run("(define e1 (ephemeron p1 (cons p1 1))) (define t0 (table)) (define t1 (table))", 1000);
+        run("(define f0 (lambda (o) (print o))) (define f1 (lambda (o) (set! x0 o)))", 1000);
+        run("(define f2 (lambda (o) (finalize! o f0) (print 'again)))", 1000);
+        run("(define r (lambda (n) (if (< n 1) (gc) (r (- n 1)))))", 1000);
+        for (int i = 0; i < 12 && alike; i++) {
+            StringBuilder text = new StringBuilder();
+            for (int j = random.nextInt(8); j >= 0; j--) {
+                text.append(statement()).append(' ');
+            }
+            run(text.toString(), oneOf(50, 150, 400, 1000, 3000, 20000));
+        }
+    }
+
+    private String statement() {
+        switch (random.nextInt(16)) {
+            case 0:
+                return "(define " + anyGlobal() + " " + expression(3) + ")";
+            case 1:
+                return "(set! " + pair() + " (cons " + expression(2) + " " + expression(2) + "))";
+            case 2:
+                return "(set! " + weak() + " (weak " + expression(2) + "))";
+            case 3:
+                return "(set! " + ephemeron() + " (ephemeron " + expression(1) + " " + expression(2) + "))";
+            case 4:
+            case 5:
+                return "(table-put! " + table() + " " + expression(1) + " " + expression(2) + ")";
+            case 6:
+            case 7:
+                return "(finalize! " + expression(2) + " " + finalizer() + ")";
+            case 8:
+            case 9:
+                return "(gc)";
+            case 10:
+                return "(let ((i 0)) (while (< i " + random.nextInt(40) + ") " + expression(3)
+                        + " (set! i (+ i 1))))";
+            case 11:
+                return "(print " + expression(2) + ")";
+            case 12:
+                return "(set! x" + random.nextInt(3) + " " + expression(1) + ")";
+            case 13:
+                return "(r " + oneOf(1, 5, 20, 58, 59, 60, 61) + ")";
+            case 14:
+                return "(print (cells))";
+            default:
+                return expression(4);
+        }
+    }
+
+    private String pair() {
+        return "p" + random.nextInt(3);
+    }
+
+    private String weak() {
+        return "w" + random.nextInt(2);
+    }
+
+    private String ephemeron() {
+        return "e" + random.nextInt(2);
+    }
+
+    private String table() {
+        return "t" + random.nextInt(2);
+    }
+
+    private String any() {
+        return "x" + random.nextInt(3);
+    }
+
+    private String anyGlobal() {
+        return random.nextInt(30) == 0 ? oneOf("unknown", "car", "r", "i") : random.nextInt(4) == 0
+                ? oneOf(weak(), ephemeron(), table(), "v0", "f0") : oneOf(pair(), any());
+    }
+
+    private String finalizer() {
+        switch (random.nextInt(6)) {
+            case 0:
+                return "f0";
+            case 1:
+                return "f1";
+            case 2:
+                return "f2";
+            case 3:
+                return "(let ((h " + expression(2) + ")) (lambda (o) (print h) (print o)))";
+            case 4:
+                return "(lambda (o) " + expression(2) + " (set! " + any() + " o))";
+            default:
+                return random.nextInt(5) == 0 ? oneOf("car", "r2", "(lambda () 1)", "5") : "f0";
+        }
+    }
+
+    private String expression(int depth) {
+        if (depth == 0 || random.nextInt(5) == 0) {
+            return oneOf(anyGlobal(), anyGlobal(), pair(), "" + random.nextInt(3), "#t", "#f", "'()", "'s",
+                    "'(a (b) 1)", "(cons 1 2)");
+        }
+        int d = depth - 1;
+        switch (random.nextInt(26)) {
+            case 0:
+            case 1:
+                return "(cons " + expression(d) + " " + expression(d) + ")";
+            case 2:
+                return oneOf("(car ", "(cdr ") + oneOf(pair(), expression(d)) + ")";
+            case 3:
+                return "(set-" + oneOf("car! ", "cdr! ") + pair() + " " + expression(d) + ")";
+            case 4:
+                return "(vector " + oneOf("0", "1", "3", "40", "101", "-1") + " " + expression(d) + ")";
+            case 5:
+                return "(vector-get " + oneOf("v0", expression(d)) + " " + oneOf("0", "1", "2", "-1") + ")";
+            case 6:
+                return "(vector-put! v0 " + oneOf("0", "1", "2") + " " + expression(d) + ")";
+            case 7:
+                return "(weak " + expression(d) + ")";
+            case 8:
+                return "(weak-get " + weak() + ")";
+            case 9:
+                return "(ephemeron " + expression(d) + " " + expression(d) + ")";
+            case 10:
+                return oneOf("(ephemeron-key ", "(ephemeron-value ") + ephemeron() + ")";
+            case 11:
+                return "(let ((t (table))) (table-put! t " + expression(d) + " " + expression(d) + ") t)";
+            case 12:
+                return oneOf("(table-get " + table() + " " + expression(d) + ")", "(table-size " + table() + ")");
+            case 13:
+                return "(finalize! " + expression(d) + " " + finalizer() + ")";
+            case 14:
+                return oneOf("(hash ", "(not ", "(null? ", "(pair? ") + expression(d) + ")";
+            case 15:
+                return oneOf("(gc)", "(cells)");
+            case 16:
+                return "(print " + expression(d) + ")";
+            case 17:
+                return oneOf("(+ ", "(- ", "(* ", "(quotient ", "(remainder ", "(= ", "(< ", "(eq? ")
+                        + expression(d) + " " + expression(d) + ")";
+            case 18:
+                return "(if " + expression(d) + " " + expression(d) + oneOf("", " " + expression(d)) + ")";
+            case 19:
+                return "(let ((y " + expression(d) + ") (x1 " + expression(d) + ")) " + expression(d) + " y)";
+            case 20:
+                return "(" + oneOf("and", "or", "begin 0") + " " + expression(d) + " " + expression(d) + ")";
+            case 21:
+                return "(lambda (" + oneOf("", "o", "x0 x1") + ") " + expression(d) + ")";
+            case 22:
+                return "((lambda (o x0) " + expression(d) + " o) " + expression(d) + " " + expression(d) + ")";
+            case 23:
+                return "(begin (set! " + anyGlobal() + " " + expression(d) + ") " + expression(d) + ")";
+            case 24:
+                return "(f" + random.nextInt(3) + " " + expression(d) + ")";
+            default:
+                return expression(d);
+        }
+    }
+
+    private void runShapes() {
+        for (int i = 0; i < 30 && alike; i++) {
+            StringBuilder text = new StringBuilder();
+            for (int j = random.nextInt(3); j >= 0; j--) {
+                text.append(datum(random.nextInt(5), true)).append(oneOf(" ", "", "\n", "; x\n"));
+            }
+            run(text.toString(), oneOf(0, 3, 20, 300));
+        }
+    }
+
+    /** A datum that is often, but not always, an expression. */
+    private String datum(int depth, boolean mayDefine) {
+        if (depth == 0 || random.nextInt(6) == 0) {
+            return oneOf("a", "b", "5", "-7", "#t", "#f", "'q", "'(1 'x)", "print", "if", "()", "x!", "car", "a", "1");
+        }
+        String head = oneOf(HEADS);
+        if (random.nextInt(12) == 0) {
+            return "'" + datum(depth - 1, true);
+        }
+        StringBuilder list = new StringBuilder("(").append(head);
+        if (head.equals("define") && !mayDefine) {
+            list.setLength(1);
+            list.append("print");
+        }
+        if (head.equals("set!") || head.equals("define")) {
+            list.append(' ').append(oneOf("a", "b", "c", datum(1, false)));
+        } else if (head.equals("lambda")) {
+            list.append(' ').append(names());
+        } else if (head.equals("let")) {
+            list.append(' ').append(bindings(depth - 1));
+        }
+        for (int i = oneOf(1, 1, 1, 2, 2, 0, 3, 8, 9); i > 0; i--) {
+            list.append(' ').append(datum(depth - 1, random.nextInt(9) == 0));
+        }
+        return list.append(')').toString();
+    }
+
+    private String names() {
+        if (random.nextInt(15) == 0) {
+            return oneOf("a", "5", "'x", "#t");
+        }
+        StringBuilder names = new StringBuilder("(");
+        for (int i = oneOf(0, 1, 2, 3, 7, 8, 9); i > 0; i--) {
+            names.append((char) ('a' + i)).append(' ');
+            if (random.nextInt(20) == 0) {
+                names.append(oneOf("if", "5", "(a)", "b", "()")).append(' ');
+            }
+        }
+        return names.append(')').toString();
+    }
+
+    private String bindings(int depth) {
+        if (random.nextInt(15) == 0) {
+            return oneOf("a", "5", "'x", "#t");
+        }
+        StringBuilder names = new StringBuilder("(");
+        for (int i = oneOf(0, 1, 2, 3, 7, 8, 9); i > 0; i--) {
+            names.append('(').append((char) ('a' + i)).append(' ')
+                    .append(random.nextInt(3) == 0 ? datum(depth, false) : "1").append(')');
+            if (random.nextInt(20) == 0) {
+                names.append(oneOf("if", "5", "(a)", "(a 1 2)", "()", "(5 5)", "(if 1)", "((a) 1)", "'x", "(b 1)"));
+            }
+        }
+        return names.append(')').toString();
+    }
+
+    private void runSplices() {
+        for (int i = 0; i < 30 && alike; i++) {
+            StringBuilder text = new StringBuilder(statement());
+            for (int j = random.nextInt(4); j > 0; j--) {
+                int at = random.nextInt(text.length() + 1);
+                char splice = SPLICES.charAt(random.nextInt(SPLICES.length()));
+                if (random.nextBoolean() && at < text.length()) {
+                    text.setCharAt(at, splice);
+                } else {
+                    text.insert(at, splice);
+                }
+            }
+            run(text.toString(), 500);
+        }
+    }
+}
