@@ -16,7 +16,8 @@ final class Check {
         checks++;
         if (!Objects.equals(got, want)) {
             wrong++;
-            System.out.println(what + " answered " + got + ", due is " + want);
+            String shown = what.length() > 200 ? what.substring(0, 200) + " .." : what;
+            System.out.println(shown + " answered " + got + ", due is " + want);
         }
     }
 

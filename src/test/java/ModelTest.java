@@ -85,14 +85,18 @@ public final class ModelTest {
         }
     }
 
-    private void runCollections() {
-        run("(define p0 (cons 0 0)) (define p1 (cons 1 '(1))) (define p2 '((2) . 2)) ", 1000);
-        run("(define p2 '((2) 2)) (define v0 (vector 2 0)) (define x0 0) (define x1 1) (define x2 2)", 1000);
-        run("(define w0 (weak p0)) (define w1 (weak (cons 1 1))) (define e0 (ephemeron p0 p1))", 1000);
-        run("(define e1 (ephemeron p1 (cons p1 1))) (define t0 (table)) (define t1 (table))", 1000);
-        run("(define f0 (lambda (o) (print o))) (define f1 (lambda (o) (set! x0 o)))", 1000);
-        run("(define f2 (lambda (o) (finalize! o f0) (print 'again)))", 1000);
+    /** Defines the names that the statements use. */
+    private void prepare() {
+        run("(define p0 (cons 0 0)) (define p1 (cons 1 '(1))) (define p2 '((2) 2)) (define v0 (vector 2 0))", 1000);
+        run("(define x0 0) (define x1 1) (define x2 2) (define w0 (weak p0)) (define w1 (weak (cons 1 1)))", 1000);
+        run("(define e0 (ephemeron p0 p1)) (define e1 (ephemeron p1 (cons p1 1)))", 1000);
+        run("(define t0 (table)) (define t1 (table)) (define f0 (lambda (o) (print o)))", 1000);
+        run("(define f1 (lambda (o) (set! x0 o))) (define f2 (lambda (o) (finalize! o f0) (print 'again)))", 1000);
         run("(define r (lambda (n) (if (< n 1) (gc) (r (- n 1)))))", 1000);
+    }
+
+    private void runCollections() {
+        prepare();
         for (int i = 0; i < 12 && alike; i++) {
             StringBuilder text = new StringBuilder();
             for (int j = random.nextInt(8); j >= 0; j--) {
@@ -105,7 +109,7 @@ public final class ModelTest {
     private String statement() {
         switch (random.nextInt(16)) {
             case 0:
-                return "(define " + anyGlobal() + " " + expression(3) + ")";
+                return "(define " + any() + " " + expression(3) + ")";
             case 1:
                 return "(set! " + pair() + " (cons " + expression(2) + " " + expression(2) + "))";
             case 2:
@@ -158,7 +162,7 @@ public final class ModelTest {
     }
 
     private String anyGlobal() {
-        return random.nextInt(30) == 0 ? oneOf("unknown", "car", "r", "i") : random.nextInt(4) == 0
+        return random.nextInt(60) == 0 ? oneOf("unknown", "car", "r", "i") : random.nextInt(3) == 0
                 ? oneOf(weak(), ephemeron(), table(), "v0", "f0") : oneOf(pair(), any());
     }
 
@@ -233,7 +237,7 @@ public final class ModelTest {
             case 22:
                 return "((lambda (o x0) " + expression(d) + " o) " + expression(d) + " " + expression(d) + ")";
             case 23:
-                return "(begin (set! " + anyGlobal() + " " + expression(d) + ") " + expression(d) + ")";
+                return "(begin (set! " + (random.nextInt(20) == 0 ? anyGlobal() : any()) + " " + expression(d) + ") " + expression(d) + ")";
             case 24:
                 return "(f" + random.nextInt(3) + " " + expression(d) + ")";
             default:
@@ -308,6 +312,7 @@ public final class ModelTest {
     }
 
     private void runSplices() {
+        prepare();
         for (int i = 0; i < 30 && alike; i++) {
             StringBuilder text = new StringBuilder(statement());
             for (int j = random.nextInt(4); j > 0; j--) {
