@@ -458,15 +458,11 @@ public final class WeakScheme {
             }
         }
 
+        /** A comment ends at 10; a byte that may not stand in a text ends it, too, and is the next token's fault. */
         private void skipComment() {
-            int end = at;
-            while (end < stop && text[end] >= ' ' && text[end] <= '~') {
-                end++;
+            while (at < stop && text[at] >= ' ' && text[at] <= '~') {
+                at++;
             }
-            if (end < stop && text[end] != '\n') {
-                fail(SYNTAX, end);
-            }
-            at = end;
         }
 
         private void openList(boolean tick) {
@@ -515,7 +511,7 @@ public final class WeakScheme {
 
         private void readWord() {
             int end = at;
-            while (isLetter(end)) {
+            while (end < stop && isLetter(end)) {
                 end++;
             }
             boolean minus = text[at] == '-' && end - at > 1;
@@ -1008,7 +1004,8 @@ public final class WeakScheme {
                     await(finalizers.object[i], registrations + i);
                 }
             }
-            for (int i = 0; i < founds; i++) {
+            // Tracing finds more, but each object once: the row is never longer than there are handles.
+            for (int i = 0; i < founds && i < found.length; i++) {
                 trace(found[i]);
                 wake(found[i]);
             }
@@ -1429,7 +1426,6 @@ public final class WeakScheme {
         private void prepare(int newFuel) {
             fuel = newFuel;
             fault = NO_FAULT;
-            value = NIL;
             calls = 0;
             held.clear();
             heap.lacking = false;

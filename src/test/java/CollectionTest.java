@@ -4,6 +4,7 @@ public final class CollectionTest {
         weakReferences();
         ephemerons();
         chainsOfEphemerons();
+        manyOfOneKey();
         tables();
         registrations();
         theOrderOfTheQueue();
@@ -70,6 +71,19 @@ public final class CollectionTest {
         }
     }
 
+    /** All that waits for one key has its value, whatever is found ahead of the key. */
+    private static void manyOfOneKey() {
+        Check x = scheme();
+        x.run("(define a 0) (define b 0) (define t (table)) (define u (table)) (define z (cons (cons 'k 0) 0))");
+        x.run("(define k (car z)) (set! a (ephemeron k '(a))) (set! b (ephemeron k '(b))) (table-put! t k '(t)) (table-put! u k '(u))");
+        x.run("(finalize! k (let ((n '(n))) (lambda (o) (print n)))) (finalize! k (let ((n '(m))) (lambda (o) (print n))))");
+        x.run("(set! k 0) (gc) (vector 90 0) (vector 90 0) (vector 90 0)");
+        x.writes("(print (ephemeron-value a)) (print (ephemeron-value b)) (print (table-get t (car z))) (print (table-get u (car z)))",
+                "(a)\n(b)\n(t)\n(u)\n");
+        x.writes("(set! z 0) (gc) (print (ephemeron-value a)) (print (ephemeron-value b)) (print (table-size t)) (print (table-size u))",
+                "(n)\n(m)\n#f\n#f\n0\n0\n");
+    }
+
     private static void tables() {
         scheme().writes("(define t (table)) (define k '(k)) (table-put! t k '(v)) (table-put! t '(x) 1) (table-put! t 5 '(5))"
                         + "(print (table-size t)) (gc) (print (table-size t)) (print (table-get t k)) (print (table-get t 5))",
@@ -123,6 +137,10 @@ public final class CollectionTest {
         x.writes("(finalize! '(1) log) (finalize! '(2) log) (finalize! '(3) log) (gc)", "(1)\n(2)\n(3)\n");
         x.writes("(define a '(a)) (finalize! a log) (finalize! '(b) log) (finalize! a (lambda (o) (print 'second)))"
                 + "(finalize! a log) (gc) (print 'now) (set! a 0) (gc)", "(b)\nnow\n(a)\nsecond\n(a)\n");
+        // Those that stay close up, and keep their order.
+        x.writes("(define b '(b)) (define c '(c)) (finalize! '(1) log) (finalize! b log) (finalize! '(2) log) (finalize! c log)"
+                + "(finalize! b (lambda (o) (print 'b2))) (gc)", "(1)\n(2)\n").counts(4, 3);
+        x.writes("(set! b 0) (gc) (print 'then) (set! c 0) (gc)", "(b)\nb2\nthen\n(c)\n").counts(4, 0);
         // Behind what is there: these were queued by two collections, with none called in between.
         x.run("(define a '(a)) (define b '(b)) (finalize! b log) (finalize! a log)");
         x.run("(define waste (lambda (n) (while (< 0 n) (vector 90 0) (set! n (- n 1)))))");
@@ -137,6 +155,11 @@ public final class CollectionTest {
                 + "(finalize! p f)) (gc)");
         x.writes("(print (weak-get w)) (set! p 0) (gc) (print (weak-get w)) (gc) (print (weak-get w))",
                 "#<procedure>\n(n)\n#f\n#f\n");
+        // So it is if the object is found only through others.
+        x.run("(define l (cons (cons '(o) 1) 2)) (finalize! '(x) log) (finalize! (car (car l)) (let ((n '(n))) (lambda (o) (print n))))"
+                + "(finalize! (car l) (let ((m '(m))) (lambda (o) (print m)))) (gc)");
+        x.counts(4, 2).output();
+        x.writes("(gc) (vector 90 0) (vector 90 0) (set! l 0) (gc)", "(n)\n(m)\n").counts(4, 0);
         // A procedure that has the object itself does not keep it.
         x.writes("(let ((o '(o))) (finalize! o (lambda (x) (print (eq? x o))))) (gc)", "#t\n").counts(4, 0);
         // Two that keep each other by their procedures only.

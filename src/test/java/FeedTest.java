@@ -3,6 +3,8 @@ public final class FeedTest {
     public static void main(String[] args) {
         theHighestByteComesFirst();
         onlyTheFirstBytesAreTheProgram();
+        theRestIsNotSeen();
+        theLastByte();
         threeThousandBytesAreTheMost();
         anyByteIsTaken();
         Check.end();
@@ -30,6 +32,47 @@ public final class FeedTest {
         x.feed("(print 3)");
         Check.due("cut short", x.scheme().run(8, 100) + " at " + x.scheme().place(), "1 at 8");
         Check.due("gone with a fault, too", x.count(5), 0);
+    }
+
+    /** What stands behind the first n bytes is not there for the program. */
+    private static void cut(String text, int n, int fault, int place) {
+        Check x = new Check(200);
+        x.feed(text);
+        Check.due(n + " bytes of " + text, x.scheme().run(n, 100) + " at " + x.scheme().place(), fault + " at " + place);
+    }
+
+    private static void theRestIsNotSeen() {
+        cut("#t", 1, 1, 1);
+        cut("#f", 1, 1, 1);
+        cut("#tt", 2, 0, -1);
+        cut("#fx", 2, 0, -1);
+        cut("123a", 3, 0, -1);
+        cut("12345678901234", 3, 0, -1);
+        cut("car1", 3, 0, -1);
+        cut("'abcdefghijklmnopqrstuvwxyz", 21, 0, -1);
+        cut("'abcdefghijklmnopqrstuvwxyz", 22, 1, 1);
+        cut("-1", 1, 0, -1);
+        cut("'1", 1, 1, 1);
+        cut("(car)", 4, 1, 4);
+        cut("; \t", 2, 0, -1);
+        cut("1)", 1, 0, -1);
+        cut("(print (+ 1 2))", 0, 0, -1);
+    }
+
+    /** The last of 3000 bytes has nothing behind it. */
+    private static void theLastByte() {
+        for (String last : new String[] {"#", "'", "(", ")", ";", "1", "a", "\n", "-", "\t"}) {
+            Check x = new Check(200);
+            x.feed(" ".repeat(2999) + last);
+            int fault = "1\n;-".contains(last) ? 0 : last.equals("a") ? 5 : 1;
+            int place = fault != 1 ? -1 : last.equals(")") || last.equals("\t") ? 2999 : 3000;
+            Check.due("at the end " + last, x.scheme().run(3000, 9) + " at " + x.scheme().place(), fault + " at " + place);
+        }
+        Check x = new Check(200);
+        x.feed(" ".repeat(2998) + "#t");
+        Check.due("at the end #t", x.scheme().run(3000, 9), 0);
+        x.feed(";".repeat(3000));
+        Check.due("one comment", x.scheme().run(3000, 9), 0);
     }
 
     private static void threeThousandBytesAreTheMost() {

@@ -12,6 +12,8 @@ public final class HeapTest {
         quotedListsAreHeld();
         operandsAreHeldWhileAnObjectIsMade();
         everyObjectOutlivesCollections();
+        manySmallObjects();
+        cellsThatServedBefore();
         Check.end();
     }
 
@@ -223,5 +225,34 @@ public final class HeapTest {
                 "(1 2 . 3)\n(1 2 . 3)\n11\n(1 2 . 3)\nval\n");
         x.writes("(print (table-get t v)) (print (table-get t 1)) (print (table-size t)) (print (eq? p (weak-get w)))",
                 "vec\n(1 2 . 3)\n2\n#t\n");
+    }
+
+    /** No object is smaller than 3 cells. */
+    private static void manySmallObjects() {
+        for (int cells : new int[] {100, 101, 102, 2000, 20000}) {
+            Check x = new Check(cells);
+            x.run("(define fill (lambda (n) (while (< 0 n) (weak n) (set! n (- n 1))))) (define n 0)");
+            x.run("(set! fill 0) (gc)");
+            x.counts(0, 0);
+            for (int left = cells / 3; left > 0; left -= 1000) {
+                x.run("(set! n " + Math.min(left, 1000) + ") (while (< 0 n) (weak n) (set! n (- n 1)))");
+            }
+            x.counts(0, cells / 3 * 3).counts(1, cells / 3).counts(2, 1);
+            x.ends("(weak 1)", 0);
+            x.counts(0, 3).counts(1, 1).counts(2, 2);
+        }
+    }
+
+    /** A new object has nothing of what had its cells before. */
+    private static void cellsThatServedBefore() {
+        Check x = new Check(200);
+        x.run("(vector 97 7) (vector 97 7) (gc)");
+        x.counts(0, 0);
+        x.writes("(define t (table)) (print (table-size t)) (print (table-get t 7)) (table-put! t 1 2) (print (table-size t))"
+                + "(print (table-get t 7)) (print (table-get t 1))", "0\n#f\n1\n#f\n2\n");
+        x.writes("(define v (vector 3 'a)) (print (vector-get v 0)) (print (vector-get v 1)) (print (vector-get v 2))",
+                "a\na\na\n");
+        x.writes("(let ((a 1)) (let () (print a))) (print (cons 1 2)) (print (weak-get (weak 5)))", "1\n(1 . 2)\n5\n");
+        x.writes("(print ((lambda (a b) (cons a b)) 3 4)) (print (ephemeron-value (ephemeron 5 6)))", "(3 . 4)\n6\n");
     }
 }

@@ -10,19 +10,23 @@ public final class NewObjectTest {
         Check.end();
     }
 
-    /** Fills the heap with pairs until there is no room for one more. */
+    /** Fills the heap to its last cell without a collection; one more cell has no room. */
     private static void holds(int cells, int due) {
         Check x = new Check(cells);
-        x.run("(define l '())");
-        int fault = 0;
-        for (int i = 0; i < 100 && fault == 0; i++) {
-            fault = x.run("(define i 0) (while (< i 1000) (set! l (cons i l)) (set! i (+ i 1)))");
-        }
-        Check.due("fault with " + cells + " cells", fault, 12);
-        Check.due("cells of " + cells, x.count(0), due / 4 * 4);
-        Check.due("objects of " + cells, x.count(1), due / 4);
-        // The last cells serve as well: a vector of none has 3, and fits only if so many are left.
-        Check.due("three more of " + cells, x.run("(vector 0 0)"), due % 4 == 3 ? 0 : 12);
+        Check.due(due + " of " + cells, fill(x, due), 0);
+        x.counts(0, due).counts(2, 0);
+        Check y = new Check(cells);
+        Check.due(due + 1 + " of " + cells, fill(y, due + 1), 12);
+        y.counts(2, 1);
+    }
+
+    /** 50 cells at a time, and then a vector of the rest. */
+    private static int fill(Check x, int cells) {
+        int times = Math.max(0, (cells - 103 + 49) / 50);
+        x.run("(define l '()) (define i 0)");
+        x.run("(while (< i " + times + ") (set! l (cons (vector 43 0) l)) (set! i (+ i 1)))");
+        x.counts(0, 50 * times);
+        return x.run("(define rest (vector " + (cells - 50 * times - 3) + " 0))");
     }
 
     private static void nothingIsInUse() {
