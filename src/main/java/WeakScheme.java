@@ -283,6 +283,7 @@ public final class WeakScheme {
     /** What has been read and stays: names, and the data of all programs, each list ahead of what is in it. */
     private static final class Source {
         static final int MOST_LETTERS = 20;
+        /** The 10 special ones, those of the 34 primitives, and 400 others. */
         static final int MOST_NAMES = 444;
         static final int MOST_DATA = 20000;
 

@@ -26,7 +26,7 @@ public final class ModelTest {
     }
 
     public static void main(String[] args) {
-        int seeds = args.length > 0 ? Integer.parseInt(args[0]) : 1500;
+        int seeds = args.length > 0 ? Integer.parseInt(args[0]) : 3000;
         int wrong = 0;
         for (int seed = 0; seed < seeds && wrong < 3; seed++) {
             ModelTest test = new ModelTest(seed);
