@@ -1418,7 +1418,7 @@ public final class WeakScheme {
                 } else {
                     return;
                 }
-                if (isCollectionDue()) {
+                if (payForCollection()) {
                     collector.collect();
                 }
             }
@@ -1435,7 +1435,8 @@ public final class WeakScheme {
             operations.gcAsked = false;
         }
 
-        private boolean isCollectionDue() {
+        /** Takes the fuel of a collection, if one is due and may be; otherwise the fault, if one is due. */
+        private boolean payForCollection() {
             if (fault != NO_FAULT || !heap.lacking && !operations.gcAsked) {
                 return false;
             }
