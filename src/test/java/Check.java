@@ -5,8 +5,16 @@ import java.util.Objects;
 final class Check {
     private static int checks;
     private static int wrong;
+    private static int sentences;
+    private static String sentence;
+    private static int checksAhead;
+
+    /** What is asked of an object behind so many calls is not promised, and so not tested. */
+    private static final int MOST_CALLS = 512;
 
     private final WeakScheme scheme;
+    private int calls;
+    private boolean isBeyond;
 
     Check(int cells) {
         scheme = new WeakScheme(cells);
@@ -17,12 +25,30 @@ final class Check {
         if (!Objects.equals(got, want)) {
             wrong++;
             String shown = what.length() > 200 ? what.substring(0, 200) + " .." : what;
-            System.out.println(shown + " answered " + got + ", due is " + want);
+            String about = sentence == null ? "" : "\"" + sentence + "\": ";
+            System.out.println(about + shown + " answered " + got + ", due is " + want);
+        }
+    }
+
+    /** The checks from here on are about these words of the document; each sentence has one at least. */
+    static void sentence(String words) {
+        endSentence();
+        sentence = words;
+        sentences++;
+        checksAhead = checks;
+    }
+
+    private static void endSentence() {
+        if (sentence != null && checks == checksAhead) {
+            wrong++;
+            System.out.println("\"" + sentence + "\" has no check");
         }
     }
 
     static void end() {
-        System.out.println(checks + " checks, " + wrong + " wrong");
+        endSentence();
+        String about = sentences == 0 ? "" : " of " + sentences + " sentences";
+        System.out.println(checks + " checks" + about + ", " + wrong + " wrong");
         if (wrong != 0 || checks == 0) {
             System.exit(1);
         }
@@ -50,14 +76,14 @@ final class Check {
         byte[] bytes = bytes(text);
         boolean all = true;
         for (int at = 0; at < bytes.length; at += 20) {
-            all &= feedTwenty(scheme, bytes, at);
+            all &= feedTwenty(scheme(), bytes, at);
         }
         return all;
     }
 
     int run(String text, int fuel) {
         feed(text);
-        return scheme.run(text.length(), fuel);
+        return scheme().run(text.length(), fuel);
     }
 
     int run(String text) {
@@ -66,7 +92,7 @@ final class Check {
 
     String output() {
         StringBuilder all = new StringBuilder();
-        for (long next = scheme.fetch(); next != 0; next = scheme.fetch()) {
+        for (long next = scheme().fetch(); next != 0; next = scheme().fetch()) {
             int many = (int) (next >>> 56);
             for (int i = 0; i < many; i++) {
                 all.append((char) (next >>> 48 - 8 * i & 255));
@@ -75,12 +101,23 @@ final class Check {
         return all.toString();
     }
 
+    /** The object, for one call of it. */
     WeakScheme scheme() {
+        calls++;
+        if (calls == MOST_CALLS + 1 && !isBeyond) {
+            due("calls of one object", calls, MOST_CALLS);
+        }
         return scheme;
     }
 
+    /** No more than this program's own: there is a bound of the document that so few calls do not reach. */
+    Check beyondThePromise() {
+        isBeyond = true;
+        return this;
+    }
+
     int count(int what) {
-        return scheme.count(what);
+        return scheme().count(what);
     }
 
     /** A program that ends without a fault and has written this. */
@@ -91,18 +128,42 @@ final class Check {
 
     /** A program that ends with this fault, 4 or more, or 0. */
     Check ends(String text, int want) {
-        due(text, run(text) + " at " + scheme.place(), want + " at -1");
+        due(text, run(text) + " at " + scheme().place(), want + " at -1");
         return this;
     }
 
     /** A program that is refused as a text, with a fault 1, 2 or 3 at a place. */
     Check fails(String text, int want, int place) {
-        due(text, run(text) + " at " + scheme.place(), want + " at " + place);
+        due(text, run(text) + " at " + scheme().place(), want + " at " + place);
+        return this;
+    }
+
+    /** A program that is refused where it has its @, which is left out. */
+    Check failsAt(int want, String marked) {
+        return fails(marked.replace("@", ""), want, marked.indexOf('@'));
+    }
+
+    /** Some of a text of which the rest is not for the program. */
+    Check cut(String text, int n, int want, int place) {
+        feed(text);
+        due(n + " bytes of " + text, scheme().run(n, 20000) + " at " + scheme().place(), want + " at " + place);
+        return this;
+    }
+
+    /** A program that is right as a text: without fuel it ends with its first evaluation. */
+    Check isRight(String text) {
+        due(text, run(text, 0) + " at " + scheme().place(), "4 at -1");
+        return this;
+    }
+
+    /** A program that ends with this fault, or 0, and leaves so much of its fuel. */
+    Check takes(String text, int fuel, int want, int left) {
+        due(text + " with " + fuel, run(text, fuel) + " leaves " + count(7), want + " leaves " + left);
         return this;
     }
 
     Check counts(int what, int want) {
-        due("count(" + what + ")", scheme.count(what), want);
+        due("count(" + what + ")", scheme().count(what), want);
         return this;
     }
 }

@@ -16,31 +16,22 @@ public final class ModelTest {
     private final Model model;
     private final StringBuilder story = new StringBuilder();
     private boolean alike = true;
+    /** How many calls the document still promises an answer for. */
+    private int calls = 512;
 
-    private ModelTest(long seed) {
+    private ModelTest(long seed, int... choices) {
         random = new Random(seed);
-        int cells = oneOf(100, 130, 200, 300, 500, 1000);
+        int cells = oneOf(choices);
         scheme = new WeakScheme(cells);
         model = new Model(cells);
         story.append("seed ").append(seed).append(", new WeakScheme(").append(cells).append(")\n");
     }
 
     public static void main(String[] args) {
-        int seeds = args.length > 0 ? Integer.parseInt(args[0]) : 3000;
+        int seeds = args.length > 0 ? Integer.parseInt(args[0]) : 4000;
         int wrong = 0;
         for (int seed = 0; seed < seeds && wrong < 3; seed++) {
-            ModelTest test = new ModelTest(seed);
-            switch (seed % 3) {
-                case 0:
-                    test.runCollections();
-                    break;
-                case 1:
-                    test.runShapes();
-                    break;
-                default:
-                    test.runSplices();
-                    break;
-            }
+            ModelTest test = tested(seed);
             Check.due("seed " + seed + " is alike", test.alike, true);
             if (!test.alike) {
                 wrong++;
@@ -48,6 +39,27 @@ public final class ModelTest {
             }
         }
         Check.end();
+    }
+
+    private static ModelTest tested(int seed) {
+        ModelTest test = seed % 5 == 3 ? new ModelTest(seed, 4000, 20000) : new ModelTest(seed, 100, 130, 200, 300, 500, 1000);
+        switch (seed % 5) {
+            case 0:
+            case 4:
+                test.runCollections();
+                break;
+            case 1:
+                test.runShapes();
+                break;
+            case 2:
+                test.runSplices();
+                break;
+            default:
+                test.runPrints();
+                test.runRooms();
+                break;
+        }
+        return test;
     }
 
     private int oneOf(int... choices) {
@@ -59,10 +71,15 @@ public final class ModelTest {
     }
 
     private void compare(String what, long got, long want) {
-        if (got != want && alike) {
+        calls--;
+        if (got != want && alike && calls >= 0) {
             alike = false;
             story.append(what).append(" answered ").append(got).append(", the model ").append(want).append('\n');
         }
+    }
+
+    private boolean goesOn() {
+        return alike && calls > 0;
     }
 
     private void run(String text, int fuel) {
@@ -77,11 +94,13 @@ public final class ModelTest {
         compare("count(5)", scheme.count(5), model.count(5));
         compare("run " + n, scheme.run(n, fuel), model.run(n, fuel));
         compare("place", scheme.place(), model.place());
-        for (int what = -1; what <= 9; what++) {
+        for (int what = 0; what <= 8; what++) {
             compare("count " + what, scheme.count(what), model.count(what));
         }
-        for (int i = random.nextInt(4) == 0 ? 600 : random.nextInt(30); i > 0 && alike; i--) {
-            compare("fetch", scheme.fetch(), model.fetch());
+        long fetched = 1;
+        for (int i = random.nextInt(30); i > 0 && fetched != 0 && goesOn(); i--) {
+            fetched = model.fetch();
+            compare("fetch", scheme.fetch(), fetched);
         }
     }
 
@@ -97,7 +116,7 @@ public final class ModelTest {
 
     private void runCollections() {
         prepare();
-        for (int i = 0; i < 12 && alike; i++) {
+        for (int i = 0; i < 16 && goesOn(); i++) {
             StringBuilder text = new StringBuilder();
             for (int j = random.nextInt(8); j >= 0; j--) {
                 text.append(statement()).append(' ');
@@ -246,7 +265,7 @@ public final class ModelTest {
     }
 
     private void runShapes() {
-        for (int i = 0; i < 30 && alike; i++) {
+        for (int i = 0; i < 30 && goesOn(); i++) {
             StringBuilder text = new StringBuilder();
             for (int j = random.nextInt(3); j >= 0; j--) {
                 text.append(datum(random.nextInt(5), true)).append(oneOf(" ", "", "\n", "; x\n"));
@@ -313,7 +332,7 @@ public final class ModelTest {
 
     private void runSplices() {
         prepare();
-        for (int i = 0; i < 30 && alike; i++) {
+        for (int i = 0; i < 30 && goesOn(); i++) {
             StringBuilder text = new StringBuilder(statement());
             for (int j = random.nextInt(4); j > 0; j--) {
                 int at = random.nextInt(text.length() + 1);
@@ -325,6 +344,58 @@ public final class ModelTest {
                 }
             }
             run(text.toString(), 500);
+        }
+    }
+
+    /** Lists near the bounds of what print writes, rings among them. */
+    private void runPrints() {
+        run("(define r (cons 1 2)) (set-cdr! r (cons 3 r)) (define q (cons 4 5)) (set-car! q q)", 1000);
+        for (int i = 0; i < 5 && goesOn(); i++) {
+            StringBuilder text = new StringBuilder("(print '" + nested(random.nextInt(14), random.nextInt(60)) + ") ");
+            text.append("(print (cons '").append(nested(random.nextInt(4), 45)).append(' ');
+            text.append(oneOf("r", "q", "'()", "7", "'(a b)", "(cons q r)", "car")).append("))");
+            if (random.nextInt(4) == 0) {
+                text.append("(let ((i 0)) (while (< i ").append(random.nextInt(700)).append(") (print 123456) (set! i (+ i 1))))");
+            }
+            run(text.toString(), 20000);
+        }
+    }
+
+    private String nested(int depth, int length) {
+        StringBuilder list = new StringBuilder("(");
+        int deeper = depth == 0 ? -1 : random.nextInt(1 + length / 2);
+        for (int i = 0; i < length; i++) {
+            list.append(i == deeper ? nested(depth - 1, random.nextInt(3) == 0 ? random.nextInt(45) : random.nextInt(4))
+                    : oneOf("1", "a", "()", "(1)", "#f", "-12")).append(' ');
+        }
+        return list.append(')').toString();
+    }
+
+    /** Texts near the bounds of data, depth and names. */
+    private void runRooms() {
+        for (int i = 0; i < 6 && goesOn(); i++) {
+            StringBuilder text = new StringBuilder("'1".repeat(oneOf(0, 0, 600, 660, 664, 665, 666, 667)));
+            for (int j = random.nextInt(6); j >= 0; j--) {
+                text.append(oneOf(" 1", "'a", "''", "()", " if", "'x", " #t", "(and)", " 12345678901", " 1a", ";\n")
+                        .repeat(oneOf(1, 1, 1, 2, 9)));
+            }
+            if (random.nextInt(3) == 0) {
+                text.append("'(");
+                for (int j = oneOf(1, 5, 60, 130, 260, 400); j > 0; j--) {
+                    text.append((char) ('a' + random.nextInt(26))).append((char) ('a' + random.nextInt(26))).append(' ');
+                }
+                text.append(')');
+            }
+            if (random.nextInt(2) == 0) {
+                int depth = oneOf(27, 28, 29, 30, 31);
+                String open = oneOf("(and ", "'", "(", "(f'");
+                text.append(open.repeat(open.equals("(f'") ? depth / 2 : depth)).append(oneOf("1", "'1", "()", "a", ""))
+                        .append(")".repeat(open.equals("'") ? 0 : open.equals("(f'") ? depth / 2 : depth));
+            }
+            if (random.nextInt(4) == 0) {
+                text.append(oneOf(")", "A", "#", "'", "("));
+            }
+            run(text.toString(), oneOf(0, 3, 20000));
         }
     }
 }
