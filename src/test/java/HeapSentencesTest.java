@@ -69,10 +69,12 @@ public final class HeapSentencesTest {
                 .writes("(let ((x (note (cons 1 2)))) (set! x 0) (show))", "#f\n")
                 .writes("(begin (car (cons (note (cons 1 2)) 1)) (show))", "#f\n");
         // Nothing else holds a value: not what a form gave, or a test was.
-        for (String form : new String[] {"(begin # (show))", "(if # (show))", "(and # (show))", "(or (not #) (show))",
-                "(begin (or #f #) (show))",
-            "(let ((a (begin # 1)) (b (show))) 1)", "(cons (begin # 1) (show))", "(while # (show) (set! note not))"}) {
-            noter().writes(form.replace("#", "(note (cons 1 2))"), "#f\n");
+        String[] forms = {
+            "(begin % (show))", "(if % (show))", "(and % (show))", "(or (not %) (show))", "(begin (or #f %) (show))",
+            "(let ((a (begin % 1)) (b (show))) 1)", "(cons (begin % 1) (show))", "(while % (show) (set! note not))"
+        };
+        for (String form : forms) {
+            noter().writes(form.replace("%", "(note (cons 1 2))"), "#f\n");
         }
         noter().writes("(note (cons 1 2)) (show)", "#f\n");
         // And nothing is held any more behind a fault.
@@ -176,8 +178,6 @@ public final class HeapSentencesTest {
                 .takes("(gc)", 20000, 0, 19898);
         for (String[] maker : MAKERS) {
             Check x = full(0, false);
-            int ahead = x.count(7);
-            Check.due("there was fuel", ahead > 100, true);
             x.takes(maker[0], 100, 4, 100 - fuelOf(maker[0])).counts(0, H).counts(2, 0);
             x.takes(maker[0], fuelOf(maker[0]) + 99, 4, 99).counts(0, H).counts(2, 0);
             x.takes(maker[0], fuelOf(maker[0]) + 100 + fuelBehind(maker[0]), 0, 0).counts(2, 1);
