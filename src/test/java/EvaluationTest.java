@@ -1,6 +1,7 @@
 /** Promise 3: running, the fuel, and the faults 4 FUEL to 8 DEEP. */
 public final class EvaluationTest {
     public static void main(String[] args) {
+        whatTheReadmeShows();
         atomsAndNames();
         quote();
         conditions();
@@ -20,6 +21,15 @@ public final class EvaluationTest {
 
     private static Check scheme() {
         return new Check(2000);
+    }
+
+    private static void whatTheReadmeShows() {
+        WeakScheme x = new WeakScheme(2000);
+        Check.due("feed", x.feed(0x28707269, 0x6E742028, 0x2B203120, 0x32292920, 0x20202020), true);
+        Check.due("run", x.run(20, 1000), 0);
+        Check.due("place", x.place(), -1);
+        Check.due("fetch", x.fetch(), 0x02330A0000000000L);
+        Check.due("count", x.count(0), 0);
     }
 
     private static void atomsAndNames() {

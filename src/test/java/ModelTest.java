@@ -42,8 +42,11 @@ public final class ModelTest {
     }
 
     private static ModelTest tested(int seed) {
-        ModelTest test = seed % 5 == 3 ? new ModelTest(seed, 4000, 20000) : new ModelTest(seed, 100, 130, 200, 300, 500, 1000);
-        switch (seed % 5) {
+        // Those of many registrations take the model far longer than the others.
+        int kind = seed % 64 == 63 ? 7 : seed % 7;
+        ModelTest test = kind == 3 || kind == 7 ? new ModelTest(seed, 4000, 20000) : kind == 5
+                ? new ModelTest(seed, 100, 120, 140, 170, 200, 300) : new ModelTest(seed, 100, 130, 200, 300, 500, 1000);
+        switch (kind) {
             case 0:
             case 4:
                 test.runCollections();
@@ -54,9 +57,18 @@ public final class ModelTest {
             case 2:
                 test.runSplices();
                 break;
-            default:
+            case 3:
                 test.runPrints();
                 test.runRooms();
+                break;
+            case 5:
+                test.runQueues();
+                break;
+            case 6:
+                test.runAnyCalls();
+                break;
+            default:
+                test.runRegistrations();
                 break;
         }
         return test;
@@ -78,6 +90,12 @@ public final class ModelTest {
         }
     }
 
+    private void compareFeed(byte[] bytes, int at) {
+        boolean fed = Check.feedTwenty(scheme, bytes, at);
+        compare("feed", fed ? 1 : 0, model.feed(Check.four(bytes, at), Check.four(bytes, at + 4),
+                Check.four(bytes, at + 8), Check.four(bytes, at + 12), Check.four(bytes, at + 16)) ? 1 : 0);
+    }
+
     private boolean goesOn() {
         return alike && calls > 0;
     }
@@ -86,9 +104,7 @@ public final class ModelTest {
         byte[] bytes = Check.bytes(text);
         story.append("run ").append(fuel).append(": ").append(text).append('\n');
         for (int at = 0; at < bytes.length; at += 20) {
-            boolean fed = Check.feedTwenty(scheme, bytes, at);
-            compare("feed", fed ? 1 : 0, model.feed(Check.four(bytes, at), Check.four(bytes, at + 4),
-                    Check.four(bytes, at + 8), Check.four(bytes, at + 12), Check.four(bytes, at + 16)) ? 1 : 0);
+            compareFeed(bytes, at);
         }
         int n = random.nextInt(20) == 0 ? random.nextInt(bytes.length + 40) - 10 : bytes.length;
         compare("count(5)", scheme.count(5), model.count(5));
@@ -261,6 +277,148 @@ public final class ModelTest {
                 return "(f" + random.nextInt(3) + " " + expression(d) + ")";
             default:
                 return expression(d);
+        }
+    }
+
+    /** Little room, and procedures in the queue that make objects, collect, register again and fail. */
+    private void runQueues() {
+        run("(define n 0) (define a 0) (define b 0) (define c 0) (define w (weak 0)) (define e (ephemeron 0 0)) (define t (table))",
+                1000);
+        for (int i = 0; i < 3; i++) {
+            run("(define f" + i + " " + queued(2) + ")", 1000);
+        }
+        for (int i = 0; i < 20 && goesOn(); i++) {
+            StringBuilder text = new StringBuilder();
+            for (int j = random.nextInt(4); j >= 0; j--) {
+                text.append(random.nextInt(3) == 0 ? "(begin " + step(2) + " " + step(2) + " " + step(1) + ")" : step(3));
+            }
+            run(text.append(random.nextInt(6) == 0 ? " (car 0)" : "").toString(), oneOf(150, 350, 700, 1500, 5000));
+        }
+    }
+
+    /** A procedure for the queue. */
+    private String queued(int depth) {
+        StringBuilder body = new StringBuilder("(lambda (o) ");
+        if (random.nextInt(2) == 0) {
+            body.append("(print n) ");
+        }
+        for (int j = random.nextInt(3); j >= 0; j--) {
+            body.append(oneOf("(gc)", "(set! " + oneOf("a", "b", "c") + " o)", "(finalize! o f" + random.nextInt(3) + ")",
+                    "(if (< (cells) " + oneOf(20, 60, 100) + ") (gc))", "(print (cells))",
+                    random.nextInt(8) == 0 ? "(car 0)" : "(set! w (weak o))", step(depth - 1), step(depth - 1)));
+        }
+        return body.append(" (set! n (+ n 1)))").toString();
+    }
+
+    /** What is done with operands of the right sort. */
+    private String step(int depth) {
+        int d = Math.max(0, depth - 1);
+        switch (random.nextInt(depth > 0 ? 18 : 12)) {
+            case 0:
+            case 1:
+                return "(set! " + oneOf("a", "b", "c") + " " + thing(d) + ")";
+            case 2:
+            case 3:
+                return "(finalize! " + object(d) + " f" + random.nextInt(3) + ")";
+            case 4:
+                return "(gc)";
+            case 5:
+                return "(vector " + oneOf("5", "20", "45") + " " + thing(d) + ")";
+            case 6:
+                return "(table-put! t " + thing(d) + " " + thing(d) + ")";
+            case 7:
+                return "(set! w (weak " + thing(d) + "))";
+            case 8:
+                return "(set! e (ephemeron " + thing(d) + " " + thing(d) + "))";
+            case 9:
+                return "(print " + oneOf("a", "b", "(weak-get w)", "(ephemeron-key e)", "(ephemeron-value e)", "(table-size t)",
+                        "(hash a)", "(table-get t a)", "(cells)") + ")";
+            case 10:
+                return "(if (pair? a) (set-car! a " + thing(d) + "))";
+            case 11:
+                return "(set! " + oneOf("a", "b", "c") + " 0)";
+            case 12:
+                return "(finalize! " + object(d) + " " + queued(d) + ")";
+            case 13:
+                return "(let ((i 0)) (while (< i " + random.nextInt(12) + ") " + step(d) + " (set! i (+ i 1))))";
+            case 14:
+                return "(let ((x " + thing(d) + ") (y " + thing(d) + ")) " + step(d) + " " + step(d) + ")";
+            case 15:
+                return "((lambda (x y) " + step(d) + " x) " + thing(d) + " " + thing(d) + ")";
+            case 16:
+                return "(f" + random.nextInt(3) + " " + thing(d) + ")";
+            default:
+                return "(begin " + step(d) + " " + step(d) + ")";
+        }
+    }
+
+    private String thing(int depth) {
+        return random.nextInt(2) == 0 ? oneOf("a", "b", "c", "(weak-get w)", "7", "'s", "#f") : object(depth);
+    }
+
+    private String object(int depth) {
+        int d = depth - 1;
+        if (depth <= 0) {
+            return oneOf("(cons 1 a)", "'(1)", "'(1 (2 3) 4)", "t", "w", "(table)", "(vector 3 b)", "(lambda () 1)");
+        }
+        return oneOf("(cons " + thing(d) + " " + thing(d) + ")", "(weak " + thing(d) + ")", "'(1 ((2) 3) 4 (5 6 7))",
+                "(ephemeron " + thing(d) + " " + thing(d) + ")", "(let ((x " + thing(d) + ")) " + step(d) + " (cons x x))",
+                "(let ((x " + thing(d) + ") (u (table))) (table-put! u x " + thing(d) + ") (cons x u))",
+                "(let ((x " + thing(d) + ")) (lambda () x))", "(vector 4 " + thing(d) + ")");
+    }
+
+    /** All calls in any order: texts that come in parts, are cut, are run twice; refused calls among them. */
+    private void runAnyCalls() {
+        prepare();
+        byte[] bytes = new byte[0];
+        int at = 0;
+        while (goesOn()) {
+            if (at >= bytes.length) {
+                bytes = Check.bytes(random.nextInt(4) == 0 ? datum(2, true) : statement() + statement());
+                story.append("text: ").append(new String(bytes, java.nio.charset.StandardCharsets.ISO_8859_1)).append('\n');
+                at = 0;
+            }
+            int kind = random.nextInt(12);
+            if (kind < 4) {
+                compareFeed(bytes, at);
+                at += 20;
+            } else if (kind < 6) {
+                int n = oneOf(0, at, at, bytes.length, bytes.length, -1, 20, random.nextInt(60), at + 1, 3000);
+                int fuel = oneOf(0, 5, 120, 400, 20000, 20000, -1, 20001, Integer.MIN_VALUE);
+                story.append("run(").append(n).append(", ").append(fuel).append(")\n");
+                compare("run", scheme.run(n, fuel), model.run(n, fuel));
+            } else if (kind < 8) {
+                compare("fetch", scheme.fetch(), model.fetch());
+            } else if (kind < 9) {
+                compare("place", scheme.place(), model.place());
+            } else {
+                int what = random.nextInt(12) - 1;
+                compare("count " + what, scheme.count(what), model.count(what));
+            }
+            if (random.nextInt(150) == 0) {
+                for (int i = 0; i < 155 && goesOn(); i++) {
+                    compareFeed(bytes, 0);
+                }
+            }
+        }
+    }
+
+    /** Hundreds of registrations, and a queue that a fault leaves with some of them. */
+    private void runRegistrations() {
+        run("(define l '()) (define m 0) (define s 0) (define f (lambda (o) (set! s (+ s (car o))) (if (= (car o) m) (car 0))))",
+                1000);
+        run("(define many (lambda (i j) (while (< i j) (finalize! (cons i i) f) (set! i (+ i 1)))))", 1000);
+        run("(define some (lambda (i j) (while (< i j) (set! l (cons (cons i i) l)) (finalize! (car l) f) (set! i (+ i 1)))))", 1000);
+        run("(define waste (lambda (i) (while (< 0 i) (vector 97 0) (set! i (- i 1)))))", 1000);
+        for (int i = 0; i < 14 && goesOn(); i++) {
+            int from = random.nextInt(400);
+            StringBuilder text = new StringBuilder("(set! m " + random.nextInt(600) + ") ");
+            for (int j = random.nextInt(3); j >= 0; j--) {
+                text.append(oneOf("(many " + from + " " + (from + random.nextInt(300)) + ") ", "(set! l '()) ",
+                        "(some " + from + " " + (from + random.nextInt(200)) + ") ", "(gc) ", "(begin (waste 210) (car 0)) ",
+                        "(if (pair? l) (set! l (cdr l))) ", "(print s) "));
+            }
+            run(text.toString(), oneOf(3000, 20000, 20000));
         }
     }
 
