@@ -342,14 +342,19 @@ public final class ModelTest {
             case 13:
                 return "(let ((i 0)) (while (< i " + random.nextInt(12) + ") " + step(d) + " (set! i (+ i 1))))";
             case 14:
-                return "(let ((x " + thing(d) + ") (y " + thing(d) + ")) " + step(d) + " " + step(d) + ")";
+                return "(let ((x " + thing(d) + ") (y " + thing(d) + ")) " + letGo() + step(d) + " " + step(d) + ")";
             case 15:
-                return "((lambda (x y) " + step(d) + " x) " + thing(d) + " " + thing(d) + ")";
+                return "((lambda (x y) " + letGo() + step(d) + " x) " + thing(d) + " " + thing(d) + ")";
             case 16:
                 return "(f" + random.nextInt(3) + " " + thing(d) + ")";
             default:
                 return "(begin " + step(d) + " " + step(d) + ")";
         }
+    }
+
+    /** A value that only the frame had may go, though the form that made it is not through. */
+    private String letGo() {
+        return oneOf("", "(set! x 0) ", "(set! w (weak x)) (set! x y) ", "(set! e (ephemeron y x)) (set! y 0) ");
     }
 
     private String thing(int depth) {
